@@ -135,15 +135,21 @@ public final class LanguageTest {
     }
 
     private static void lookAtLengths(String source) {
-        int start = 0;
-        String[] lines = source.split("\n");
-        for (int i = 0; i < lines.length; i++) {
-            if (lines[i].matches(" {4,8}(\\w.*)?\\) \\{")) {
-                start = i;
+        List<String> lines = List.of(source.split("\n"));
+        Pattern head = Pattern.compile("( {4}| {8})(?!if|for|while|switch|\\})\\w.*\\) \\{");
+        int methods = 0;
+        for (int i = 0; i < lines.size(); i++) {
+            Matcher m = head.matcher(lines.get(i));
+            if (m.matches()) {
+                methods++;
+                int length = lines.subList(i, lines.size()).indexOf(m.group(1) + "}");
+                if (length < 0 || length > 60) {
+                    broken("a long method: " + lines.get(i).trim());
+                }
             }
-            if (lines[i].matches(" {4,8}\\}") && start > 0 && i - start > 60 && lines[start].indexOf(lines[start].trim()) == lines[i].indexOf('}')) {
-                broken("a long method: " + lines[start].trim());
-            }
+        }
+        if (methods < FACE.size() - 4) {
+            broken("only " + methods + " methods were seen");
         }
     }
 
