@@ -52,6 +52,7 @@ public final class BoundariesTest {
         valleys();
         undo();
         images();
+        whatImagesKeep();
         status();
         calls();
         counts();
@@ -474,6 +475,10 @@ public final class BoundariesTest {
         fault("valley;z", 7);
         fault("valley;ones 0 1 2 3;", 7);
         fault("valley;on 0 1 2 3;", 7);
+        fault("halley;", 0);
+        fault("valley;brize 0 0 1;", 7);
+        fault("valley;ane 0 1 2 3;", 7);
+        fault("valley;onf 0 1 2 3;", 7);
         fault("valley;on e 0 1 2 3;", 7);
         fault("valleyone 0 1 2 3;", 0);
         says("figures (1 or 2 are one number)");
@@ -534,6 +539,8 @@ public final class BoundariesTest {
         fault("valley;prize 0 0  1111111111111111;", 18);
         fault("valley;prize 000 0 1;", 13);
         fault("valley;123", 7);
+        fault("valley 123;", 7);
+        fault("valley;one 0 1 2 3 123;", 19);
         says("a number not as told");
         reads("valley;prize 7 2 30;", 2);
         fault("valley;prize 9 2 30;", 13);
@@ -543,6 +550,9 @@ public final class BoundariesTest {
         fault("valley 0;", 7);
         says("a byte that begins none, too");
         fault("-", 0);
+        fault("valley-", 6);
+        fault("valley;one 0 1 2 3-", 18);
+        fault("valley;one 0 1 2 3 :", 19);
         fault("valley;one 0 -1 2 3;", 13);
         fault("valley;one 0 1, 2 3;", 14);
         says("the TEXT's length, if it ends too early (an empty one, too)");
@@ -616,6 +626,14 @@ public final class BoundariesTest {
         due("left() in year 4", gone(left, 1).left(), 16 + 128);
         due("left() in year 7", gone(left, 3).left(), 128);
         due("left() behind all", gone(left, 1).left(), 0);
+        NobodyTwice eight = told("");
+        for (int y = 0; y < 8; y++) {
+            eight.prize(y, 0, 9);
+        }
+        due("left() of all", eight.left(), 255);
+        eight.one(0, 1, 1, 1);
+        eight.one(2, 1, 1, 1);
+        due("left() of all but three", eight.left(), 255 - 7);
     }
 
     private static void bestYears() {
@@ -624,6 +642,13 @@ public final class BoundariesTest {
         due("best(0, 0): a saver, in a year the hider is past", x.best(0, 0), 5);
         due("best(0, 1)", x.best(0, 1), 8);
         due("enter(5): by the kind it would not", x.enter(5), 0);
+        NobodyTwice proud = told("prize 0 0 7;prize 2 0 6;one 3 1 1 1;one 1 1 1 1;one 5 1 1 1;one 3 1 1 1;one 3 1 1 1;one 3 1 1 1;");
+        for (int p = 0; p < 6; p++) {
+            due("best(" + p + ", 0): year 0, against its kind", proud.best(p, 0), 0);
+            due("best(" + p + ", 1): year 0, against its kind", proud.best(p, 1), 7);
+        }
+        due("enter(0) behind best: by their kinds again", proud.enter(0), 0);
+        due("handicap(5) behind best: the others by their kinds again", proud.handicap(5), 0);
         says("so that what one WINS in it is of most WORTH; of like ones the first; how much;");
         due("best(1, 0)", x.best(1, 0), 0);
         due("best(1, 1)", x.best(1, 1), 9);
@@ -649,6 +674,12 @@ public final class BoundariesTest {
         due("rivals(0, 1, -1)", x.rivals(0, 1, -1), 1);
         due("rivals(0, 1, 0): 7 and 6", x.rivals(0, 1, 0), 62);
         due("rivals(1, 0, 0): 6 and 7", x.rivals(1, 0, 0), 55);
+        NobodyTwice proud = told("prize 0 0 7;prize 2 0 6;one 3 1 1 1;one 1 1 1 1;one 5 1 1 1;one 3 1 1 1;one 3 1 1 1;one 3 1 1 1;");
+        due("rivals(4, 5, -1): against their kinds", proud.rivals(4, 5, -1), 1);
+        due("rivals(4, 5, 0): 0 and 2", proud.rivals(4, 5, 0), 2);
+        due("rivals(5, 4, 0): 2 and 0", proud.rivals(5, 4, 0), 16);
+        due("enter(0) behind rivals: by their kinds again", proud.enter(0), 0);
+        due("handicap(0) behind rivals: the others by their kinds again", proud.handicap(0), 0);
         due("rivals(0, 0, -1), alike", x.rivals(0, 0, -1), -10);
         due("rivals(1, 1, 0), alike", x.rivals(1, 1, 0), -10);
         says("pairs 8 i and j that rest (neither would get more by another YEAR): how many; the k-th (rising).");
@@ -685,6 +716,10 @@ public final class BoundariesTest {
         due("handicap(2): a saver, whatever it would", x.handicap(2), 4);
         due("handicap(3): of the savers none enters", x.handicap(3), 4);
         due("handicap(5)", x.handicap(5), 0);
+        NobodyTwice sort = told("prize 0 2 14;one 0 9 9 1;one 0 9 9 4;one 0 0 0 2;");
+        due("handicap(0) in sort 2", sort.handicap(0), 4);
+        due("handicap(1) in sort 2", sort.handicap(1), 0);
+        due("handicap(2) in sort 2", sort.handicap(2), 3);
         says("none: all are over, no PRIZE, one is BARRED, or good for nothing.");
         NobodyTwice none = told("prize 0 0 9;prize 7 0 9;one 0 1 1 1;one 0 0 9 9;one 2 1 1 1;");
         due("handicap(0), good for 1", none.handicap(0), 0);
@@ -712,6 +747,8 @@ public final class BoundariesTest {
         NobodyTwice x = told("prize 0 0 9;prize 1 0 10;prize 7 0 20;one 0 5 5 5;");
         due("order(0)", x.order(0), 7);
         due("order(0), with a win up to now", gone(x, 1).order(0), -1);
+        // the better one takes the 9 first, and leaves the 20 to the other
+        due("order(1): both prizes move", told("prize 0 0 20;prize 1 1 9;one 0 5 5 5;one 0 4 4 4;").order(1), 1);
         says("none: none brings more than as it is; of like ones the first.");
         due("order(0): as much is not more", told("prize 0 0 9;prize 1 0 9;one 0 5 5 5;").order(0), -1);
         due("order(0): 01 and 02", told("prize 0 0 9;prize 1 0 10;prize 2 0 10;one 0 5 5 5;").order(0), 1);
@@ -800,6 +837,19 @@ public final class BoundariesTest {
         says("CLASH: how many BEATEN are not so as all is.");
         due("clash()", may.clash(), 4);
         due("clash() of none", told("one 0 5 0 9;").clash(), 0);
+        NobodyTwice last = told("one 0 1 2 3;one 0 3 1 2;one 0 2 3 1;");
+        for (int i = 0; i < 3; i++) {
+            last.beaten((i + 1) % 3, i, i, 7);
+            last.beaten(i, (i + 1) % 3, i, 7);
+        }
+        due("clash(): each, or the other way round", last.clash(), 3);
+        due("may(2, 0): beats and is beaten by none", last.may(2, 0), 1023);
+        due("may(0, 2): both ways at once", last.may(0, 2), 0);
+        last.forget(1);
+        last.beaten(1, 0, 0, 0);
+        last.beaten(2, 1, 1, 0);
+        last.beaten(0, 2, 2, 0);
+        due("clash(): all are so", last.clash(), 0);
         NobodyTwice clash = told("one 0 5 5 5;one 4 3 3 3;one 0 5 5 5;");
         clash.beaten(0, 1, 0, 0);
         due("clash(): in year 0 a dog is good for nothing", clash.clash(), 0);
@@ -827,6 +877,8 @@ public final class BoundariesTest {
         fraction(told("prize 0 0 20;one 0 9 9 9;one 0 6 6 6;one 0 3 3 3;"), 0, 0, 1, 2);
         fraction(told("prize 0 0 20;one 0 9 9 9;one 0 6 6 6;one 0 3 3 3;"), 1, 0, 1, 3);
         fraction(told("prize 0 0 20;one 0 9 9 9;"), 0, 0, 1, 1);
+        fraction(told("prize 0 0 20;one 0 1 1 1;"), 0, 0, 1, 1);
+        fraction(told("prize 0 0 20;one 0 1 1 1;one 0 1 1 1;"), 1, 0, 1, 2);
         fraction(told("prize 1 0 20;one 4 9 9 9;one 4 9 9 9;one 4 9 9 9;one 4 9 9 9;one 4 9 9 9;one 4 9 9 9;"), 5, 1, 1, 6);
         fraction(told("prize 1 0 20;one 4 9 9 9;one 4 9 9 9;one 4 9 9 9;one 4 9 9 9;one 4 9 9 9;one 0 1 9 9;"), 5, 1, 1, 91);
         says("the chance of one: THE FRACTION (0: one does not ENTER).");
@@ -836,6 +888,10 @@ public final class BoundariesTest {
         fraction(x, 0, 7, 0, 1);
         fraction(x, 2, 7, 1, 2);
         fraction(x, 3, 6, 0, 1);
+        NobodyTwice barred = told("prize 0 0 20;prize 1 0 20;one 0 9 9 9;one 2 8 8 8;one 0 4 4 4;");
+        fraction(barred, 0, 0, 3, 7);
+        fraction(barred, 0, 1, 0, 1);
+        fraction(barred, 1, 1, 2, 3);
         gone(x, 7);
         fraction(x, 3, 7, 1, 2);
         due("odds(3, 6), over", x.odds(3, 6), -2);
@@ -859,6 +915,28 @@ public final class BoundariesTest {
                 }
             }
         }
+        for (int seed = 0; seed < 1000000; seed += 9901) {
+            valleysOfHiders(seed);
+        }
+        says("WORTH of all that is WON in it by all, in all n together.");
+        NobodyTwice nobody = told("prize 0 0 9;");
+        due("valleys of nobody", nobody.valleys(1, 60), 0);
+        NobodyTwice weak = told("prize 0 0 9;one 0 0 0 0;");
+        due("valleys of one good for nothing", weak.valleys(1, 60), 0);
+        NobodyTwice won = gone(told("prize 0 0 9;one 0 1 1 1;"), 1);
+        due("valleys of one who has won ahead of it", won.valleys(1, 60), 0);
+    }
+
+    /** Four hiders have all eight prizes, whatever they are, and so each time. */
+    private static void valleysOfHiders(int seed) {
+        NobodyTwice v = told("one 2 1 1 1;one 2 1 1 1;one 2 1 1 1;one 2 1 1 1;");
+        long x = seed;
+        long sum = 0;
+        for (int i = 0; i < 60 * 8; i++) {
+            x = x * 1103515245L + 12345L & 0x7fffffffL;
+            sum += (x >> 20) % 30 + 1;
+        }
+        due("valleys(" + seed + ", 60) of hiders", v.valleys(seed, 60), sum);
     }
 
     /** A plain one good in sort 0 alone has the first prize of that sort that comes, and so each time. */
@@ -885,6 +963,16 @@ public final class BoundariesTest {
             + " told none may be).");
         NobodyTwice x = told("prize 0 0 9;prize 7 0 9;one 2 5 5 5;one 2 4 4 4;");
         due("undo(), none gone by", x.undo(), -3);
+        NobodyTwice second = told("prize 0 0 9;prize 1 0 9;one 2 4 4 4;one 2 5 5 5;");
+        gone(second, 2);
+        due("of(0, 5), second twice", second.of(0, 5), 2);
+        due("of(1, 4)", second.of(1, 4), 3);
+        second.undo();
+        due("of(0, 5), second once", second.of(0, 5), 1);
+        due("of(1, 4)", second.of(1, 4), 1);
+        second.undo();
+        due("of(0, 5), never", second.of(0, 5), 0);
+        due("of(1, 4)", second.of(1, 4), 0);
         long[] digests = new long[9];
         for (int y = 0; y < 8; y++) {
             digests[y] = x.digest();
@@ -953,6 +1041,50 @@ public final class BoundariesTest {
         due("undo(): nothing went by when it was kept", x.undo(), -3);
     }
 
+    private static void whatImagesKeep() {
+        says("what may be undone they keep; it goes on from one.");
+        NobodyTwice x = told("prize 0 0 9;prize 1 0 9;one 0 5 5 5;one 0 4 4 4;one 0 3 3 3;");
+        x.note(0, 14, 2, 0);
+        x.note(1, 30, 7, 1);
+        x.beaten(1, 0, 2, 7);
+        gone(x, 2);
+        x.image(0);
+        long digest = x.digest();
+        // another course, with other notes, other winners and other years
+        x.valley();
+        x.one(2, 1, 1, 1);
+        x.one(2, 9, 9, 9);
+        x.one(2, 8, 8, 8);
+        x.prize(0, 1, 30);
+        x.prize(1, 1, 30);
+        x.note(2, 1, 1, 1);
+        x.note(2, 2, 2, 1);
+        x.beaten(0, 2, 0, 0);
+        gone(x, 3);
+        due("from(0)", x.from(0), 1);
+        due("digest()", x.digest(), digest);
+        due("is(0)", x.is(0), 2 + 8 + 32);
+        due("clash()", x.clash(), 1);
+        due("undo()", x.undo(), 1);
+        due("of(0, 4)", x.of(0, 4), 1);
+        due("of(1, 4)", x.of(1, 4), 0);
+        due("of(1, 5)", x.of(1, 5), 1);
+        due("of(2, 5)", x.of(2, 5), 0);
+        due("undo()", x.undo(), 0);
+        due("of(0, 4)", x.of(0, 4), 0);
+        due("of(1, 5)", x.of(1, 5), 0);
+        due("year()", x.year(), 0);
+        due("from(0): what went on does not change the image", x.from(0), 1);
+        due("digest()", x.digest(), digest);
+        x.image(1);
+        x.valley();
+        due("image(0), kept anew", x.image(0), 1);
+        due("from(1): the other image stays", x.from(1), 1);
+        due("digest()", x.digest(), digest);
+        due("from(0)", x.from(0), 1);
+        due("count(0)", x.count(0), 0);
+    }
+
     private static void status() {
         says("STATUS: how many calls were refused as BAD, NO, FULL (each answer told so below is such a one).");
         NobodyTwice x = new NobodyTwice();
@@ -1000,7 +1132,11 @@ public final class BoundariesTest {
         due("digest() as at first", x.digest(), new NobodyTwice().digest());
         due("valley() of nobody", x.valley(), 0);
         due("one", x.one(0, 0, 0, 0), 0);
-        due("valley() of one", x.valley(), 1);
+        due("one", x.one(0, 0, 0, 0), 1);
+        due("of(0, 4): of one who won there is nothing left", x.of(0, 4), 0);
+        due("of(0, 6)", x.of(0, 6), 0);
+        due("of(1, 5): of one who was second, too", x.of(1, 5), 0);
+        due("valley() of two", x.valley(), 2);
         says("The PRIZE of a YEAR (any): its WORTH ahead of it (0: none). BAD.");
         NobodyTwice late = gone(told("prize 7 0 3;"), 8);
         due("prize(7, 1, 4), over", late.prize(7, 1, 4), 3);
@@ -1067,6 +1203,56 @@ public final class BoundariesTest {
         says("How many: 0 PEOPLE, 1 THE YEAR, 2 PRIZES, 3 WINS of all, 4 NOTES, 5 BEATEN, 6 that may be undone, 7 bytes"
             + " of THE TEXT. BAD.");
         bounds("count(what)", BoundariesTest::three, 0, 7, NobodyTwice::count);
+        NobodyTwice full = full();
+        int[] want = {6, 8, 8, 8, 6, 6, 8, 150};
+        for (int i = 0; i < 8; i++) {
+            due("count(" + i + ") at first", new NobodyTwice().count(i), 0);
+            due("count(" + i + "), as much as can be", full.count(i), want[i]);
+        }
+        digests(full);
+    }
+
+    /** As much of all as can be, but for the image. */
+    private static NobodyTwice full() {
+        NobodyTwice x = new NobodyTwice();
+        for (int p = 0; p < 6; p++) {
+            x.one(2, 9 - p, 8 - p, 7 - p);
+        }
+        for (int y = 0; y < 8; y++) {
+            x.prize(y, y % 3, 30 - y);
+        }
+        x.odds(5, 0);
+        gone(x, 8);
+        for (int i = 0; i < 6; i++) {
+            x.note(i, 30 - i, 7 - i, i % 2);
+            x.beaten(5 - i, (6 - i) % 6, i % 3, 7 - i);
+        }
+        for (int i = 0; i < 150; i++) {
+            x.type(32);
+        }
+        return x;
+    }
+
+    private static long mixed(long... row) {
+        long h = 1303;
+        for (long v : row) {
+            h = 31 * h + v;
+        }
+        return h;
+    }
+
+    private static void digests(NobodyTwice full) {
+        says("of YEARS SORT (NONE: -1), WORTH (0); of PEOPLE KIND, three ARTS, WINS (bits), SECONDS; of NOTES p, w, l,"
+            + " tried; of BEATEN p, q, s, y; THE FRACTION.");
+        due("digest() at first", new NobodyTwice().digest(), mixed(0, 0, 0, 0, 0, 0, 0, 0,
+            -1, 0, -1, 0, -1, 0, -1, 0, -1, 0, -1, 0, -1, 0, -1, 0, 0, 1));
+        // four hiders have two years each, the next one being second in both; by lot in year 0 the last has 4 of 39
+        due("digest(), as much as can be", full.digest(), mixed(6, 8, 8, 8, 6, 6, 8, 150,
+            0, 30, 1, 29, 2, 28, 0, 27, 1, 26, 2, 25, 0, 24, 1, 23,
+            2, 9, 8, 7, 3, 0, 2, 8, 7, 6, 12, 2, 2, 7, 6, 5, 48, 2, 2, 6, 5, 4, 192, 2, 2, 5, 4, 3, 0, 2, 2, 4, 3, 2, 0, 0,
+            0, 30, 7, 0, 1, 29, 6, 1, 2, 28, 5, 0, 3, 27, 4, 1, 4, 26, 3, 0, 5, 25, 2, 1,
+            5, 0, 0, 7, 4, 5, 1, 6, 3, 4, 2, 5, 2, 3, 0, 4, 1, 2, 1, 3, 0, 1, 2, 2,
+            4, 39));
     }
 
     private static void manyCalls() {

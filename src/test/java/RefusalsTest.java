@@ -204,6 +204,12 @@ public final class RefusalsTest {
     private static List<Long> drawnOut(NobodyTwice x) {
         List<Long> told = new ArrayList<>();
         told.add(x.digest());
+        for (int p = 0; p < x.count(0); p++) {
+            told.add((long) x.handicap(p));
+        }
+        for (int y = x.count(1); y < 8; y++) {
+            told.add((long) x.enter(y));
+        }
         for (int i = 0; i <= 8; i++) {
             told.add((long) x.year());
             told.add(x.digest());
