@@ -43,6 +43,7 @@ public final class BoundariesTest {
         aheadOfTheYears();
         bestYears();
         rivals();
+        allByTheirKinds();
         handicaps();
         orders();
         notes();
@@ -382,6 +383,9 @@ public final class BoundariesTest {
         says("the best one WINS (of like ones the first), the next best is second");
         due("one alone", told("prize 0 0 9;one 0 0 9 9;one 0 1 1 1;").winner(0, 0), 1);
         due("no second", told("prize 0 0 9;one 0 0 9 9;one 0 1 1 1;").winner(0, 1), -1);
+        NobodyTwice least = told("prize 0 0 9;one 0 2 9 9;one 0 1 1 1;one 0 0 1 1;");
+        due("winner(0, 0): good for 2", least.winner(0, 0), 0);
+        due("winner(0, 1): good for 1, and second by it", least.winner(0, 1), 1);
         NobodyTwice like = told("prize 0 0 9;one 0 3 3 3;one 0 4 4 4;one 0 4 4 4;one 0 4 4 4;one 0 3 3 3;");
         due("winner(0, 0) of like ones", like.winner(0, 0), 1);
         due("winner(0, 1) of like ones", like.winner(0, 1), 2);
@@ -704,6 +708,39 @@ public final class BoundariesTest {
         nothing.year();
         due("behind all", nothing.rivals(0, 1, -1), 0);
         due("behind all", nothing.rivals(0, 1, 0), -5);
+    }
+
+    /** What one would choose is forgotten with the answer: the next one asked has all by their kinds again. */
+    private static void allByTheirKinds() {
+        says("(Nothing is changed by these; YEARS go by from THE YEAR on, all by their KINDS.)");
+        String text = "prize 0 0 9;prize 3 0 9;one 0 5 5 5;one 0 4 4 4;";
+        for (int before = 0; before < 4; before++) {
+            due("handicap(1)", asked(text, before).handicap(1), 2);
+            due("enter(0)", asked(text, before).enter(0), 3);
+            due("winner(3, 0)", asked(text, before).winner(3, 0), 1);
+            due("end(1, 1)", asked(text, before).end(1, 1), 1);
+            due("left()", asked(text, before).left(), 0);
+            due("best(1, 0)", asked(text, before).best(1, 0), 3);
+            due("rivals(0, 1, -1)", asked(text, before).rivals(0, 1, -1), 2);
+            due("order(1)", asked(text, before).order(1), -1);
+            due("year()", asked(text, before).year(), 0);
+            NobodyTwice x = asked(text, before);
+            fraction(x, 0, 0, 5, 9);
+            NobodyTwice seeds = asked(text, before);
+            due("valleys(7, 9)", seeds.valleys(7, 9), told(text).valleys(7, 9));
+        }
+    }
+
+    private static NobodyTwice asked(String text, int before) {
+        NobodyTwice x = told(text);
+        if (before == 1) {
+            x.best(0, 0);
+        } else if (before == 2) {
+            x.rivals(0, 1, 0);
+        } else if (before == 3) {
+            x.order(0);
+        }
+        return x;
     }
 
     private static void handicaps() {
