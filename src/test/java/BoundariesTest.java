@@ -832,6 +832,22 @@ public final class BoundariesTest {
             due("offer(0) in year " + y, x.offer(0), 1);
             x.year();
         }
+        says("TRYING or not, the greater part of these KINDS is least;");
+        // by notes all kinds, the savers, the others, the proud, all but the proud, or savers but the proud may be left:
+        // a WORTH of 1 parts them whenever any does, and of like ones it is the least
+        int[][] notes = {{}, {14, 2, 0}, {14, 2, 1}, {7, 1, 0}, {7, 1, 1}, {14, 2, 0, 7, 1, 1}};
+        int[] kinds = {63, 42, 21, 8, 55, 34};
+        for (int i = 0; i < notes.length; i++) {
+            NobodyTwice some = told("one 0 1 1 1;");
+            for (int n = 0; n < notes[i].length; n += 3) {
+                some.note(0, notes[i][n], notes[i][n + 1], notes[i][n + 2]);
+            }
+            due("is(0)", some.is(0), kinds[i]);
+            for (int y = 0; y <= 8; y++) {
+                due("offer(0) of " + kinds[i] + " in year " + y, some.offer(0), 1);
+                some.year();
+            }
+        }
         says("of like ones the least; none: no KIND.");
         x.note(0, 14, 2, 0);
         due("offer(0) of savers", x.offer(0), 1);
